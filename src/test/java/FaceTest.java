@@ -110,7 +110,7 @@ public final class FaceTest {
         String[] lines = text.split("\n");
         int methods = 0;
         for (int i = 0; i < lines.length; i++) {
-            Matcher head = Pattern.compile("( {4}| {8})[\\w\\[\\] ]+\\(.*\\) \\{").matcher(lines[i]);
+            Matcher head = Pattern.compile("( {4}| {8})\\w[\\w\\[\\] ]*\\(.*\\) \\{").matcher(lines[i]);
             if (head.matches()) {
                 int end = i;
                 while (!lines[end].equals(head.group(1) + "}")) {

@@ -64,11 +64,23 @@ public final class ModelTest {
             int v = run % 4 == 3 ? 9 : draw(10);
             due("load", routes.load(hour, v), model.load(hour, v));
         }
+        if (run % 4 == 3) {
+            fill();
+        }
         while (made < CALLS && !checks.anyWrong()) {
             step();
             if (made < CALLS && draw(4) == 0) {
                 due("digest", routes.digest(), model.digest());
             }
+        }
+    }
+
+    /** Comes to 80 calls that go on, where the wires are enough. */
+    private void fill() {
+        for (int i = 0; i < 90; i++) {
+            int a = draw(model.w.n);
+            int b = draw(model.w.n);
+            due("call", routes.call(a, b, 24), model.call(a, b, 24));
         }
     }
 
@@ -178,7 +190,9 @@ public final class ModelTest {
     }
 
     private void texts() {
-        due("clear", routes.clear(), model.clear());
+        if (draw(5) > 0) {
+            due("clear", routes.clear(), model.clear());
+        }
         StringBuilder text = new StringBuilder();
         for (int i = 1 + draw(6); i > 0; i--) {
             text.append(order());

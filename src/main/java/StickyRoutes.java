@@ -53,7 +53,11 @@ public final class StickyRoutes {
             return refuse(BAD);
         }
         keepState();
-        return what == 0 ? now.setWires(a, b, v) : now.setReserve(a, b, v);
+        int[] row = what == 0 ? now.wires : now.reserves;
+        int link = Net.linkCell(a, b);
+        int was = row[link];
+        row[link] = v;
+        return was;
     }
 
     public int links(int what, int v) {
@@ -61,11 +65,7 @@ public final class StickyRoutes {
             return refuse(BAD);
         }
         keepState();
-        if (what == 0) {
-            now.setAllWires(v);
-        } else {
-            now.setAllReserves(v);
-        }
+        Net.fill(what == 0 ? now.wires : now.reserves, v);
         return now.townCount * (now.townCount - 1) / 2;
     }
 
@@ -321,7 +321,7 @@ public final class StickyRoutes {
     /** Stops as soon as the limit is reached: best() has no use for a reserve that does no better. */
     private int refusedWith(int reserve, int hourCount, int limit) {
         trial.copyFrom(now);
-        trial.setAllReserves(reserve);
+        Net.fill(trial.reserves, reserve);
         int refused = 0;
         for (int i = 0; i < hourCount && refused < limit; i++) {
             trial.passHours(1);
@@ -382,12 +382,12 @@ public final class StickyRoutes {
             x = 1;
             hoursGone = 0;
             callCount = 0;
-            setAllWires(FIRST_WIRES);
-            setAllReserves(0);
-            clearRow(held);
-            clearRow(counts);
-            clearRow(totals);
-            clearRow(loads);
+            fill(wires, FIRST_WIRES);
+            fill(reserves, 0);
+            fill(held, 0);
+            fill(counts, 0);
+            fill(totals, 0);
+            fill(loads, 0);
             for (int a = 0; a < MOST_TOWNS; a++) {
                 for (int b = 0; b < MOST_TOWNS; b++) {
                     stickies[pairCell(a, b)] = leastOther(a, b);
@@ -402,9 +402,9 @@ public final class StickyRoutes {
             return a != 1 && b != 1 ? 1 : 2;
         }
 
-        private static void clearRow(int[] row) {
+        static void fill(int[] row, int v) {
             for (int i = 0; i < row.length; i++) {
-                row[i] = 0;
+                row[i] = v;
             }
         }
 
@@ -422,30 +422,6 @@ public final class StickyRoutes {
             System.arraycopy(other.totals, 0, totals, 0, COUNTS);
             System.arraycopy(other.loads, 0, loads, 0, DAY);
             System.arraycopy(other.calls, 0, calls, 0, other.callCount * CALL_PARTS);
-        }
-
-        int setWires(int a, int b, int v) {
-            int was = wires[linkCell(a, b)];
-            wires[linkCell(a, b)] = v;
-            return was;
-        }
-
-        int setReserve(int a, int b, int v) {
-            int was = reserves[linkCell(a, b)];
-            reserves[linkCell(a, b)] = v;
-            return was;
-        }
-
-        void setAllWires(int v) {
-            for (int i = 0; i < CELLS; i++) {
-                wires[i] = v;
-            }
-        }
-
-        void setAllReserves(int v) {
-            for (int i = 0; i < CELLS; i++) {
-                reserves[i] = v;
-            }
         }
 
         /** Calls go on when wires become fewer, so more may be held than there are. */
@@ -610,8 +586,8 @@ public final class StickyRoutes {
             switch (orders[at + Text.KIND]) {
                 case Text.CALL: return ask(a, b, k) != REFUSED;
                 case Text.PASS: passHours(k); return false;
-                case Text.WIRES: setWires(a, b, k); return false;
-                case Text.RESERVE: setReserve(a, b, k); return false;
+                case Text.WIRES: wires[linkCell(a, b)] = k; return false;
+                case Text.RESERVE: reserves[linkCell(a, b)] = k; return false;
                 case Text.PLAN: loads[a] = k; return false;
                 default: handsBack = k; return false;
             }

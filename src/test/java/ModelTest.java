@@ -203,11 +203,11 @@ public final class ModelTest {
         if (draw(8) == 0) {
             text.setLength(draw(text.length()));
         }
-        for (int i = 0; i < text.length() && made < CALLS - 1; i++) {
+        for (int i = 0; i < text.length() && made < CALLS - 2; i++) {
             due("type", routes.type(text.charAt(i)), model.type(text.charAt(i)));
         }
-        due("does '" + model.text + "'", routes.does(), model.does());
-        if (made < CALLS) {
+        if (made < CALLS - 1) {
+            due("does '" + model.text + "'", routes.does(), model.does());
             due("digest", routes.digest(), model.digest());
         }
     }

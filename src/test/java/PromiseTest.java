@@ -1000,8 +1000,9 @@ public final class PromiseTest {
         for (int what = 0; what < 5; what++) {
             h = 31 * h + x.all(what);
         }
-        for (int a = 0; a < x.told(4); a++) {
-            int b = (a + 1) % x.told(4);
+        int n = x.told(4);
+        for (int a = 0; a < n; a++) {
+            int b = (a + 1) % n;
             h = 31 * h + x.pair(a, b, 4) + 7 * x.of(a, b, 2) + 11 * x.sticky(a, b);
         }
         return 31 * h + x.would(2, 0);

@@ -5,7 +5,7 @@ final class Bounds {
     private final Checks checks = new Checks();
     private String sentence = "";
 
-    /** What is checked from now on: the promise (or the part of the Terms) and the words of the document. */
+    /** What is checked from now on: the promise (or the part of the Terms) and the words of the document, or what these come to in a case of their own. */
     void sentence(String promise, String words) {
         sentence = promise + ", \"" + words + "\"";
     }

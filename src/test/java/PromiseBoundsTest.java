@@ -109,7 +109,8 @@ public final class PromiseBoundsTest {
             + " | told 8 = 1");
         b.run("hours 23 | towns 4 | load 0 1 | hours 1 | all 0 = 0 | told 7 = 1");
         for (int n = 3; n <= 6; n++) {
-            Routes changed = Routes.after("towns 6 | links 0 0 | links 1 7 | call 0 5 1 | call 5 0 1 | load 3 9 | hours 9 | back 1 | seed 7 | towns " + n);
+            Routes changed = Routes.after("towns 6 | links 0 0 | links 1 7 | call 0 5 1 | call 5 0 1 | load 3 9 | hours 9 | back 1"
+                + " | seed 7 | towns " + n);
             Routes plain = Routes.after("towns 6 | links 0 5 | links 1 0 | load 3 0 | back 0 | seed 1 | towns " + n);
             b.due("digest of " + n + " towns", changed.ask("digest"), plain.ask("digest"));
             b.due("asked of " + n + " towns", changed.ask("pair 0 2 0"), 0);
@@ -273,7 +274,8 @@ public final class PromiseBoundsTest {
     private void going() {
         b.sentence("12 going", "Of the k-th CALL that goes on (as they came): from (0), to (1), OVER (2; NONE: STRAIGHT), HOURS it has yet (3)");
         String two = TRIANGLE + "call 1 0 7 | call 2 1 9 | ";
-        b.run(two + "going 0 0 = 1 | going 0 1 = 0 | going 0 2 = 2 | going 0 3 = 7 | going 1 0 = 2 | going 1 1 = 1 | going 1 2 = NONE | going 1 3 = 9");
+        b.run(two + "going 0 0 = 1 | going 0 1 = 0 | going 0 2 = 2 | going 0 3 = 7 | going 1 0 = 2 | going 1 1 = 1 | going 1 2 = NONE"
+            + " | going 1 3 = 9");
         b.run(two + "hours 6 | going 0 3 = 1 | going 1 3 = 3 | hours 1 | going 0 0 = 2 | going 0 3 = 2 | going 1 3 = NONE");
         b.run("call 0 1 24 | going 0 3 = 24 | hours 23 | going 0 3 = 1");
         b.sentence("12 going", "NONE: not so many. BAD: k below 0, too");
@@ -346,8 +348,8 @@ public final class PromiseBoundsTest {
     private void worstLink() {
         b.sentence("16 worst", "the LINK of fewest FREE wires (2: 10 a and b, a below b; likewise), how many (3)");
         b.run("worst 2 = 1 | worst 3 = 5");
-        b.run("towns 6 | link 5 4 0 4 | worst 2 = 45 | worst 3 = 4 | link 3 4 0 4 | worst 2 = 34 | link 5 0 0 4 | worst 2 = 5 | link 4 5 0 3 | worst 2 = 45"
-            + " | worst 3 = 3");
+        b.run("towns 6 | link 5 4 0 4 | worst 2 = 45 | worst 3 = 4 | link 3 4 0 4 | worst 2 = 34 | link 5 0 0 4 | worst 2 = 5"
+            + " | link 4 5 0 3 | worst 2 = 45 | worst 3 = 3");
         b.run("link 1 3 0 4 | worst 2 = 13 | link 2 1 0 4 | worst 2 = 12 | link 0 3 0 4 | worst 2 = 3 | link 0 1 0 4 | worst 2 = 1");
         b.run("call 3 2 9 | worst 2 = 23 | worst 3 = 4 | hours 9 | worst 2 = 1 | worst 3 = 5");
         b.run("links 0 0 | worst 2 = 1 | worst 3 = 0 | link 0 1 0 30 | worst 2 = 2 | worst 3 = 0");
@@ -394,7 +396,8 @@ public final class PromiseBoundsTest {
     }
 
     private void best() {
-        b.sentence("19 best", "The r (0 .. 30) of the fewest REFUSED in n (1 .. 48) HOURS (of like ones the least): which (what 0), how many (1). BAD");
+        b.sentence("19 best", "The r (0 .. 30) of the fewest REFUSED in n (1 .. 48) HOURS (of like ones the least): which (what 0), how"
+            + " many (1). BAD");
         b.run("best 1 0 = 0 | best 1 1 = 0 | best 48 0 = 0 | best 48 1 = 0");
         String none = "links 0 0 | load 1 4 | load 0 3 | ";
         b.run(none + "best 1 0 = 0 | best 1 1 = 4 | best 24 1 = 7 | best 48 0 = 0 | best 48 1 = 14");
@@ -453,7 +456,8 @@ public final class PromiseBoundsTest {
     }
 
     private void chokedAsTheyAre() {
-        b.sentence("20 choked", "At how many ordered pairs of towns a CALL now would be REFUSED, were the STICKY towns as they are (what 0; without handing back)");
+        b.sentence("20 choked", "At how many ordered pairs of towns a CALL now would be REFUSED, were the STICKY towns as they are (what 0;"
+            + " without handing back)");
         b.run("choked 0 = 0 | links 0 0 | choked 0 = 12 | towns 3 | links 0 0 | choked 0 = 6 | towns 6 | links 0 0 | choked 0 = 30");
         b.run("link 0 1 0 0 | choked 0 = 0 | link 2 1 0 0 | choked 0 = 4 | link 2 1 0 1 | choked 0 = 0 | link 2 1 1 1 | choked 0 = 2");
         b.run("link 0 1 0 0 | link 2 1 0 0 | back 1 | choked 0 = 4 | told 8 = 1 | all 3 = 0");
@@ -490,7 +494,8 @@ public final class PromiseBoundsTest {
         b.refused("text '+1;' | back 7 | ends 0 | ", "undo", "NO");
         b.refused("seed 1 | seed 2 | undo | undo | ", "undo", "NO");
         b.run("seed 1 = 1 | undo = 0 | undo = NO | told 1 = 1 | told 9 = 0");
-        b.run(BUSY + "told 9 = 5 | undo = 4 | undo = 3 | undo = 2 | undo = 1 | undo = 0 | undo = NO | told 9 = 0 | told 7 = 0 | told 6 = 0 | told 5 = 1");
+        b.run(BUSY + "told 9 = 5 | undo = 4 | undo = 3 | undo = 2 | undo = 1 | undo = 0 | undo = NO | told 9 = 0 | told 7 = 0"
+            + " | told 6 = 0 | told 5 = 1");
         b.run("towns 6 | links 0 9 | call 4 5 2 | towns 3 | undo = 3 | told 4 = 6 | of 4 5 2 = 8 | told 6 = 1 | undo = 2 | told 6 = 0 | undo = 1"
             + " | of 4 5 2 = 5 | undo = 0 | told 4 = 4");
         b.run(FULL_OF_CALLS + "hours 24 = 80 | told 6 = 0 | undo = 4 | told 6 = 80 | going 79 3 = 24 | call 0 1 1 = FULL | undo = 3 | told 6 = 79");
@@ -503,7 +508,8 @@ public final class PromiseBoundsTest {
     }
 
     private void told() {
-        b.sentence("25 told", "How often refused: BAD (0), NO (1), FULL (2); bytes of THE TEXT (3), n (4), BACK (5), CALLS that go on (6), HOURS gone by (7), X (8), STATES (9). BAD");
+        b.sentence("25 told", "How often refused: BAD (0), NO (1), FULL (2);"
+            + " bytes of THE TEXT (3), n (4), BACK (5), CALLS that go on (6), HOURS gone by (7), X (8), STATES (9). BAD");
         b.run("towns 5 | back 1 | call 0 1 5 | call 0 2 5 | hours 3 | seed 78 | text 'abcd' | towns 9 | towns 9 | towns 9 | ends 7 | ends 7"
             + " | told 0 = 3 | told 1 = 2 | told 2 = 0 | told 3 = 4 | told 4 = 5 | told 5 = 1 | told 6 = 2 | told 7 = 3 | told 8 = 78 | told 9 = 5");
         b.run("text '" + "a".repeat(120) + "' | type 97 | type 97 | told 2 = 2 | told 3 = 120");
@@ -518,7 +524,8 @@ public final class PromiseBoundsTest {
     }
 
     private void digest() {
-        b.sentence("26 digest", "h = 2129; then h = 31 h + v for each v: told(0) to told(9); of LINKS a below b WIRES, RESERVE, FREE; of ordered pairs STICKY, REFUSED; LOADS; of CALLS going(0) to going(3)");
+        b.sentence("26 digest", "h = 2129; then h = 31 h + v for each v: told(0) to told(9); of LINKS a below b WIRES, RESERVE, FREE;"
+            + " of ordered pairs STICKY, REFUSED; LOADS; of CALLS going(0) to going(3)");
         digestOf("");
         digestOf("towns 3");
         digestOf("towns 6");

@@ -17,6 +17,9 @@ import java.util.regex.Pattern;
 public final class FaceTest {
     private static final Path SOURCE = Path.of("src/main/java/StickyRoutes.java");
     private static final int LONGEST_METHOD = 60;
+    private static final int MOST_CLASSES = 12;
+    private static final int MOST_FIELDS = 20;
+    private static final int MOST_PARAMETERS = 7;
     private static final String[] FACE = {
         "int towns(int)", "int link(int,int,int,int)", "int links(int,int)", "int back(int)", "int load(int,int)", "int seed(int)",
         "int of(int,int,int)", "int sticky(int,int)", "int call(int,int,int)", "int hours(int)", "int going(int,int)", "int ends(int)",
@@ -32,6 +35,7 @@ public final class FaceTest {
         FaceTest test = new FaceTest();
         test.face();
         test.inside();
+        test.sizes();
         test.source(Files.readString(SOURCE, StandardCharsets.UTF_8));
         test.checks.end("FaceTest");
     }
@@ -86,6 +90,22 @@ public final class FaceTest {
             }
             for (Field f : inner.getDeclaredFields()) {
                 checks.holds(f + " is final if static", !Modifier.isStatic(f.getModifiers()) || Modifier.isFinal(f.getModifiers()));
+            }
+        }
+    }
+
+    private void sizes() {
+        List<Class<?>> all = new ArrayList<>(Arrays.asList(StickyRoutes.class.getDeclaredClasses()));
+        all.add(StickyRoutes.class);
+        checks.holds("few classes", all.size() <= MOST_CLASSES);
+        for (Class<?> one : all) {
+            int fields = 0;
+            for (Field f : one.getDeclaredFields()) {
+                fields += Modifier.isStatic(f.getModifiers()) ? 0 : 1;
+            }
+            checks.holds(one + " has few fields", fields <= MOST_FIELDS);
+            for (Method m : one.getDeclaredMethods()) {
+                checks.holds(m + " takes few arguments", m.getParameterCount() <= MOST_PARAMETERS);
             }
         }
     }
